@@ -507,15 +507,12 @@ public final class BottleLine {
 
     private void forgetActs() {
         pastCount = 0;
-        nextPast = 0;
     }
 
-    /** Lets the trial do a step, and tells how the bottle in this cell leaves in it, or NONE. */
+    /** Tells how the trial's bottle in this cell leaves in the next step; if it stays, does the step: NONE. */
     private int wayInNextStep(int cell) {
         if (cell >= plan.cells - 1) {
-            boolean good = plan.isGood(trial.bottles[plan.cells - 1]);
-            trial.advance(1);
-            return good ? OUT : ESCAPED;
+            return plan.isGood(trial.bottles[plan.cells - 1]) ? OUT : ESCAPED;
         }
         int rejected = trial.rejected;
         int sampled = trial.sampled;
@@ -666,8 +663,9 @@ public final class BottleLine {
             return rest | fill | valve + 1 << VALVE_SHIFT;
         }
 
+        /** Only for a bottle that is not empty: its fill stands in the lowest bits. */
         static int leaked(int bottle) {
-            return has(bottle, LEAK) && fillOf(bottle) > 0 ? bottle - 1 : bottle;
+            return bottle - 1;
         }
     }
 
@@ -898,7 +896,10 @@ public final class BottleLine {
 
         private void leak() {
             for (int i = 0; i < plan.cells; i++) {
-                bottles[i] = Bottle.leaked(bottles[i]);
+                int bottle = bottles[i];
+                if (Bottle.has(bottle, Bottle.LEAK) && Bottle.fillOf(bottle) > 0) {
+                    bottles[i] = Bottle.leaked(bottle);
+                }
             }
         }
 
@@ -1042,7 +1043,7 @@ public final class BottleLine {
 
         private boolean takesStation(int station, int digit) {
             int least = station == 0 ? 1 : plan.stations[station - 1] + 1;
-            // The stations that follow need a cell each.
+            // Each station that follows needs a cell too.
             int most = plan.cells - STATIONS + station;
             plan.stations[station] = digit;
             return isWithin(digit, least, most);

@@ -74,7 +74,7 @@ public final class ModelTest {
             last = roll(last + 1, c - 5 + j);
             text.append(last);
         }
-        int target = roll(1, 8) == 1 ? roll(0, 1) * 99 : roll(10, 90);
+        int target = roll(1, 4) == 1 ? new int[] {0, 0, 1, 2, 5, 97, 99}[roll(0, 6)] : roll(10, 90);
         text.append(target / 10).append(target % 10).append(roll(0, 9)).append(roll(0, 3) * roll(0, 3));
         int valves = roll(0, 4);
         for (int i = 0; i < valves; i++) {
