@@ -242,12 +242,16 @@ public final class ActsTest {
         }
     }
 
+    private static String glance(BottleLine x) {
+        return x.about(8) + " steps, cells " + x.about(17) + ", setting " + x.valve(0, 0);
+    }
+
     private static void undoRemembers() {
         BottleLine x = Due.lineOf("B6123455020v504c90b");
         Due.is("undo() without acts", x.undo(), Due.LATE);
         String[] before = new String[20];
         for (int i = 0; i < 20; i++) {
-            before[i] = Due.stateOf(x);
+            before[i] = glance(x);
             if (i % 2 == 0) {
                 x.step(1);
             } else {
@@ -257,13 +261,13 @@ public final class ActsTest {
         }
         for (int i = 19; i >= 6; i--) {
             Due.is("undo() of act " + i, x.undo(), i - 6);
-            Due.same("before act " + i, Due.stateOf(x), before[i]);
+            Due.same("before act " + i, glance(x), before[i]);
         }
         Due.is("undo() of a forgotten act", x.undo(), Due.LATE);
-        Due.same("after too many undos", Due.stateOf(x), before[6]);
+        Due.same("after too many undos", glance(x), before[6]);
         x.jam();
         Due.is("undo() after new acts", x.undo(), 0);
-        Due.same("after the last undo", Due.stateOf(x), before[6]);
+        Due.same("after the last undo", glance(x), before[6]);
     }
 
     private static void failedCallsChangeNothing() {

@@ -44,24 +44,28 @@ final class Due {
         return x;
     }
 
-    /** All that acts change and undo brings back. */
+    /** All that acts change and undo brings back; with few calls, since an object is promised for 512 only. */
     static String stateOf(BottleLine x) {
         StringBuilder all = new StringBuilder();
         for (int what = 5; what <= 17; what++) {
             all.append(x.about(what)).append(' ');
         }
-        for (int cell = 0; cell < x.about(0); cell++) {
-            all.append('|');
-            for (int what = 0; what <= 7; what++) {
+        int bottles = x.about(17);
+        int cells = x.about(0);
+        for (int cell = 0; cell < cells; cell++) {
+            all.append('|').append(x.cell(cell, 0)).append(' ');
+            for (int what = 2; what <= 7 && (bottles >> cell & 1) == 1; what++) {
                 all.append(x.cell(cell, what)).append(' ');
             }
         }
         all.append("| valves ");
-        for (int valve = 0; valve < x.about(1); valve++) {
+        int valves = x.about(1);
+        for (int valve = 0; valve < valves; valve++) {
             all.append(x.valve(valve, 0)).append(' ').append(x.valve(valve, 1)).append(' ');
         }
         all.append("| queue ");
-        for (int place = 0; place < x.about(7); place++) {
+        int entries = x.about(7);
+        for (int place = 0; place < entries; place++) {
             all.append(x.queue(place)).append(' ');
         }
         return all.toString();
@@ -78,5 +82,19 @@ final class Due {
             all.append(", ").append(x.place(what));
         }
         return all.append(" fault ").append(x.fault()).toString();
+    }
+
+    /** All that an object holds, what acts, slots and the text bring back too; the object is used up by this. */
+    static String depthOf(BottleLine x) {
+        StringBuilder all = new StringBuilder(wholeOf(x));
+        all.append(" which ").append(x.which()).append(" x ").append(x.seed(0));
+        for (int left = x.undo(); left >= 0; left = x.undo()) {
+            all.append("\n  undone to ").append(left).append(": ").append(stateOf(x));
+        }
+        for (int slot = 0; slot < 2; slot++) {
+            all.append("\n  slot ").append(slot).append(": ").append(x.again(slot)).append(' ').append(stateOf(x));
+        }
+        all.append("\n  line ").append(x.line()).append(": ").append(stateOf(x));
+        return all.toString();
     }
 }

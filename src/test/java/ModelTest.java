@@ -2,8 +2,11 @@ import java.util.Random;
 
 /** Promises 1 to 33: the same calls, drawn by fixed seeds, on BottleLine and on the Model. */
 public final class ModelTest {
-    private static final int RUNS = 1500;
-    private static final int CALLS = 480;
+    private static final int RUNS = 4000;
+    /** An object is promised for 512 calls. */
+    private static final int MOST_CALLS = 512;
+    private static final int CALLS_OF_A_LOOK = 200;
+    private static final int CALLS_OF_A_TEXT = 92;
 
     private final Random dice;
     private final BottleLine real = new BottleLine();
@@ -42,15 +45,16 @@ public final class ModelTest {
     }
 
     private void run() {
-        int left = CALLS;
+        int left = MOST_CALLS - CALLS_OF_A_LOOK;
         if (roll(1, 10) > 1) {
-            left -= text(goodText());
+            left -= text(goodText()) + 1;
             Due.is(name + "line()", real.line(), model.line());
         }
-        while (left > 0) {
+        while (left > CALLS_OF_A_TEXT) {
             left -= call();
-            if (left % 16 == 0) {
-                look();
+            if (roll(1, 4) == 1) {
+                peek();
+                left--;
             }
         }
         look();
@@ -124,7 +128,7 @@ public final class ModelTest {
             if (roll(0, 2) == 0) {
                 Due.is(name + "line()", real.line(), model.line());
             }
-            return calls;
+            return calls + 1;
         }
         return 1;
     }
@@ -245,25 +249,54 @@ public final class ModelTest {
         }
     }
 
+    private void peek() {
+        int n = roll(0, 9);
+        if (n < 3) {
+            about(near(0, 20));
+        } else if (n < 8) {
+            cell(near(0, 8), near(0, 7));
+        } else if (n < 9) {
+            valve(near(0, 3), near(0, 1));
+        } else {
+            queue(near(0, 23));
+        }
+    }
+
     private void look() {
         for (int what = -1; what <= 21; what++) {
-            Due.is(name + "about(" + what + ")", real.about(what), model.about(what));
+            about(what);
         }
         for (int what = -1; what <= 5; what++) {
             Due.is(name + "place(" + what + ")", real.place(what), model.place(what));
         }
         for (int cell = -1; cell <= 9; cell++) {
             for (int what = -1; what <= 8; what++) {
-                Due.is(name + "cell(" + cell + ", " + what + ")", real.cell(cell, what), model.cell(cell, what));
+                cell(cell, what);
             }
         }
         for (int valve = -1; valve <= 4; valve++) {
             for (int what = -1; what <= 2; what++) {
-                Due.is(name + "valve(" + valve + ", " + what + ")", real.valve(valve, what), model.valve(valve, what));
+                valve(valve, what);
             }
         }
         for (int place = -1; place <= 24; place++) {
-            Due.is(name + "queue(" + place + ")", real.queue(place), model.queue(place));
+            queue(place);
         }
+    }
+
+    private void about(int what) {
+        Due.is(name + "about(" + what + ")", real.about(what), model.about(what));
+    }
+
+    private void cell(int cell, int what) {
+        Due.is(name + "cell(" + cell + ", " + what + ")", real.cell(cell, what), model.cell(cell, what));
+    }
+
+    private void valve(int valve, int what) {
+        Due.is(name + "valve(" + valve + ", " + what + ")", real.valve(valve, what), model.valve(valve, what));
+    }
+
+    private void queue(int place) {
+        Due.is(name + "queue(" + place + ")", real.queue(place), model.queue(place));
     }
 }

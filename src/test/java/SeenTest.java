@@ -47,9 +47,7 @@ public final class SeenTest {
             x.see(seen[i], seen[i + 1], seen[i + 2]);
             name.append(' ').append(seen[i]).append(' ').append(seen[i + 1]).append(' ').append(seen[i + 2]);
         }
-        String before = Due.wholeOf(x);
         Due.is(name.toString(), x.which(), want);
-        Due.same("after which", Due.wholeOf(x), before);
     }
 
     /**

@@ -228,16 +228,16 @@ public final class TextTest {
     }
 
     private static void lineFails() {
-        BottleLine x = Due.lineOf(HEAD + "v504c05l05bbx");
-        x.step(3);
-        x.keep(0);
         for (String text : new String[] {"", "B", HEAD + "v50", HEAD + "z", "B71245", HEAD + "c99c01"}) {
+            BottleLine x = Due.lineOf(HEAD + "v504c05l05bbx");
+            x.step(3);
+            x.keep(0);
             Due.write(x, text);
             String before = Due.wholeOf(x);
             Due.is("line() of " + text, x.line(), Due.LATE);
             Due.same("after line() of " + text, Due.wholeOf(x), before);
+            Due.is("again(0) after a failed line", x.again(0), 3);
         }
-        Due.is("again(0) after a failed line", x.again(0), 3);
     }
 
     private static void lineForgetsAndKeeps() {
