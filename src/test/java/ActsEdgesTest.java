@@ -36,6 +36,7 @@ public final class ActsEdgesTest {
         refusedCallsAreNoActs();
         otherCallsAreNoActs();
         againAndLineForget();
+        all512Calls();
         Due.end("ActsEdgesTest");
     }
 
@@ -511,5 +512,19 @@ public final class ActsEdgesTest {
             Due.is("setting after two undos", x.valve(0, 0), 0);
             Due.is("undo() of none", x.undo(), Due.LATE);
         }
+    }
+
+    /** "An object is used for at most 512 calls after it has been made": the last of them is as good as the first. */
+    private static void all512Calls() {
+        BottleLine x = new BottleLine();
+        for (int i = 1; i <= 511; i++) {
+            Due.is("jam() number " + i, x.jam(), i % 2);
+        }
+        Due.is("the 512th call", x.about(18), 14);
+        BottleLine steps = new BottleLine();
+        for (int i = 1; i <= 511; i++) {
+            Due.is("step(99) number " + i, steps.step(99), 99);
+        }
+        Due.is("the step number in the 512th call", steps.about(8), 511 * 99);
     }
 }
