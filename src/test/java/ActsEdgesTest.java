@@ -121,6 +121,7 @@ public final class ActsEdgesTest {
         Due.is("the bottles stay", x.about(17), 3);
     }
 
+    /** "Lets the marks slip.": the document asks for no state in which it is refused. */
     private static void slipDuringAnAlarm() {
         BottleLine x = withAlarm();
         Due.is("slip()", x.slip(), 0);
@@ -217,6 +218,7 @@ public final class ActsEdgesTest {
         }
     }
 
+    /** "Restarts.": it is not refused during an alarm, and ends none. */
     private static void restartDuringAnAlarm() {
         BottleLine x = Due.lineOf(BAD_BOTTLE + "bbbbb");
         x.jam();
@@ -345,6 +347,7 @@ public final class ActsEdgesTest {
         Due.is("acts", x.about(18), 2);
     }
 
+    /** "its first entry is removed": then there is room for one more, and for one only. */
     private static void comeAgainAfterAStep() {
         BottleLine x = Due.lineOf("B6123455020" + "b".repeat(24));
         Due.is("come to 25", x.come(1), Due.FULL);

@@ -76,6 +76,7 @@ public final class AskedEdgesTest {
         }
     }
 
+    /** "Returns a number as it would be after n steps": after 0 steps it is as it is. */
     private static void aheadBy0IsNow() {
         BottleLine x = withAlarm();
         x.come(1);
@@ -99,6 +100,7 @@ public final class AskedEdgesTest {
         }
     }
 
+    /** "17 the set of the cells with a bottle": all nine, the last one, none. */
     private static void aheadOfAllCells() {
         BottleLine x = Due.lineOf("B9123450000c30l30" + "b".repeat(24));
         Due.is("ahead(9, 17)", x.ahead(9, 17), 511);
@@ -189,6 +191,7 @@ public final class AskedEdgesTest {
         goes(x, 4, Due.NONE, Due.NONE);
     }
 
+    /** "(or before an alarm)": there is one already; the errors come first. */
     private static void goesDuringAnAlarm() {
         BottleLine x = Due.lineOf(THIRD_IS_BAD);
         x.jam();
@@ -293,6 +296,7 @@ public final class AskedEdgesTest {
         Due.is("the stock is as before", x.about(5), 99);
     }
 
+    /** "is the same with n more .. as with 40 more": with 0 more, where stocks do not matter. */
     private static void needsWithoutBottles() {
         needs(new BottleLine(), 0, 0);
         needs(Due.lineOf("B6123450000---"), 0, 0);

@@ -105,6 +105,7 @@ public final class ChanceEdgesTest {
         Due.is("it counts", x.which(), 0);
     }
 
+    /** "BAD; FULL if there are already 6" */
     private static void seeBadBeforeFull() {
         BottleLine x = new BottleLine();
         for (int i = 1; i <= 6; i++) {
@@ -141,6 +142,7 @@ public final class ChanceEdgesTest {
         Due.is("which() with an alarm", withAlarm().which(), 1023);
     }
 
+    /** "Returns the set of these numbers.": the empty one. */
     private static void whichOfTheImpossible() {
         BottleLine x = new BottleLine();
         which(x, 0, 0, 1, 0);
@@ -194,6 +196,7 @@ public final class ChanceEdgesTest {
         which(x, 1, 0, 0, 1023);
     }
 
+    /** "a count has a value after n steps", "n: 0 to 20": the last one. */
     private static void whichAfter20Steps() {
         BottleLine x = Due.lineOf("B6123450000c09l09" + "-".repeat(13) + "bb");
         which(x, 0, 20, 1, 1023);
@@ -370,6 +373,7 @@ public final class ChanceEdgesTest {
         Due.is("x after the first event", drawn.seed(0), next(0));
     }
 
+    /** "v: the new value. Returns the previous value.": any long. */
     private static void seedOfAnyLong() {
         BottleLine x = new BottleLine();
         long[] all = {Long.MAX_VALUE, Long.MIN_VALUE, -1, 1L << 32, (1L << 31) - 1, -(1L << 31) - 1, 0, 0};

@@ -332,6 +332,7 @@ public final class TextEdgesTest {
         Due.is("wipe() of 90 again", x.wipe(), 90);
     }
 
+    /** "Makes the text empty.": and nothing else. */
     private static void wipeLeavesTheLine() {
         BottleLine x = written(HEAD + "v504c05l05bbx");
         x.line();
