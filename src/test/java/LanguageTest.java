@@ -121,6 +121,37 @@ public final class LanguageTest {
             }
         }
         lengths(source.split("\n"));
+        library(code);
+        makesRowsOnce(code.split("\n"));
+    }
+
+    /** Rule 4: of the library only what stands there, and of that only what the class needs. */
+    private static void library(String code) {
+        Set<String> known = Set.of("Math.max", "Math.min", "Math.abs", "Math.floorMod", "Integer.bitCount",
+            "System.arraycopy");
+        Set<String> own = new TreeSet<>();
+        for (Class<?> nested : BottleLine.class.getDeclaredClasses()) {
+            own.add(nested.getSimpleName());
+        }
+        Matcher used = Pattern.compile("\\b([A-Z]\\w*[a-z]\\w*)\\.\\w+").matcher(code);
+        while (used.find()) {
+            boolean fits = own.contains(used.group(1)) || known.contains(used.group());
+            Due.is(used.group() + " is in the library", fits ? 1 : 0, 1);
+        }
+    }
+
+    /** All calls of a run share one room: rows are made where a field is declared or in the constructor, never by a call. */
+    private static void makesRowsOnce(String[] lines) {
+        int made = 0;
+        for (int i = 0; i < lines.length; i++) {
+            if (lines[i].matches(".*\\bnew\\b.*")) {
+                made++;
+                boolean field = lines[i].matches(" +(private )?final [\\w\\[\\]]+ \\w+ = new .*");
+                boolean row = lines[i].matches(" +(past|slots)\\[i\\] = new State\\(plan\\);");
+                Due.is("what is made is kept: " + lines[i].trim(), field || row ? 1 : 0, 1);
+            }
+        }
+        Due.is("rows are made", made > 0 ? 1 : 0, 1);
     }
 
     /** A method or a class begins in its indentation and ends with the brace below it. */
