@@ -140,7 +140,7 @@ public final class LanguageTest {
         }
     }
 
-    /** All calls of a run share one room: rows are made where a field is declared or in the constructor, never by a call. */
+    /** All calls of a run share one room: rows are made for fields and in the constructor, never by a call. */
     private static void makesRowsOnce(String[] lines) {
         int made = 0;
         for (int i = 0; i < lines.length; i++) {
